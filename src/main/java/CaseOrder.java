@@ -755,7 +755,8 @@ public final class CaseOrder {
         private static final int MOST_NODES = 1 + 2 * MOST_HAPPENINGS;
         private static final int MOST_LINKS =
             3 * MOST_HAPPENINGS + TELLERS * MOST_SAYINGS * Links.MOST_OF_SAYING;
-        private static final int UNREACHED = Integer.MIN_VALUE;
+        /** Far below what any row of links can sum up to. */
+        private static final int UNREACHED = -1_000_000_000;
 
         final Links links = new Links(MOST_LINKS);
         final int[] least = new int[MOST_NODES];

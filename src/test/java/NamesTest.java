@@ -3,6 +3,7 @@ public final class NamesTest {
     public static void main(String[] args) {
         happenings();
         namesOut();
+        longestNames();
         Probe.close("NamesTest");
     }
 
@@ -19,6 +20,9 @@ public final class NamesTest {
         p.happening("car ", 1);
         p.happening(" ".repeat(437) + "inn", 2);
         p.happening("inn" + " ".repeat(437), 2);
+        p.happening(" ".repeat(440), CaseOrder.NONE);
+        p.happening("inn" + "\n".repeat(436) + "i", CaseOrder.NONE);
+        p.happening("a".repeat(440), CaseOrder.NONE);
         String[] none = {"", " ", "\n \n", "ca", "cars", "ar", "scar", "car inn", "c ar", "car;", "CAR", "on",
             "before", "abcdefghi", "bcdefgh", "5", "\tcar", "car" + (char) 0, "car\ncar", "x"};
         for (String text : none) {
@@ -49,6 +53,27 @@ public final class NamesTest {
         }
         p.taken(0, "", 0);
         Probe.due("OUT stays behind tell", p.x.octet(0), 'c');
+    }
+
+    private static void longestNames() {
+        Probe p = new Probe();
+        for (int t = 0; t < 2; t++) {
+            StringBuilder text = new StringBuilder();
+            for (int h = 10 * t; h < 10 * t + 10; h++) {
+                text.append(longName(h)).append(" on 5;");
+            }
+            p.taken(t, text.toString(), 10);
+        }
+        for (int h = 19; h >= 0; h--) {
+            p.happening(longName(h), h);
+            out(p, h, longName(h));
+        }
+        p.happening(longName(20), CaseOrder.NONE);
+        Probe.due("name(20)", p.x.name(20), CaseOrder.NONE);
+    }
+
+    private static String longName(int h) {
+        return "abcdefg" + (char) ('a' + h);
     }
 
     private static void out(Probe p, int h, String text) {

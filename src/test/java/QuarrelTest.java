@@ -4,6 +4,7 @@ public final class QuarrelTest {
         quarrels();
         leaving();
         needlessOnes();
+        needlessButForOneLink();
         wrongArguments();
         Probe.close("QuarrelTest");
     }
@@ -130,6 +131,44 @@ public final class QuarrelTest {
         needless(p, 0, 1, 1, 1, 1);
         p.taken(0, "a from 5 to 8;a since 5;a by 8;a lasts 2 to 3;", 4);
         needless(p, 0, 0, 1, 1, 1);
+    }
+
+    /** A SAYING asks for several things: each of them alone keeps it from being NEEDLESS. */
+    private static void needlessButForOneLink() {
+        String firstIsFive = "b on 4;b before a by 1;";
+        String lastIsEight = "c on 9;a before c by 1;";
+        String from = "a from 5 to 8;";
+        firstNeedless(from + firstIsFive + "a lasts 3;", 1);
+        firstNeedless(from + firstIsFive + "a lasts 2 to 3;", 0);
+        firstNeedless(from + firstIsFive + "a lasts 3 to 4;", 0);
+        firstNeedless(from + lastIsEight + "a lasts 3;", 1);
+        firstNeedless(from + lastIsEight + "a lasts 2 to 3;", 0);
+        firstNeedless(from + lastIsEight + "a lasts 3 to 4;", 0);
+        firstNeedless("a on 5;" + firstIsFive + "a lasts 0;", 1);
+        firstNeedless("a on 5;" + firstIsFive + "a lasts 0 to 1;", 0);
+        firstNeedless("a on 8;" + lastIsEight + "a lasts 0 to 1;", 0);
+        firstNeedless("a lasts 2 to 4;a since 5;a by 9;", 0);
+        firstNeedless("a lasts 0 to 4;a since 5;a by 9;", 1);
+        firstNeedless("a lasts 1 to 4;a since 5;a by 9;", 0);
+        firstNeedless("a lasts 0 to 3;a since 5;a by 9;", 0);
+        firstNeedless("a before b;a by 5;b since 5;", 0);
+        firstNeedless("a before b;a by 5;b since 6;", 1);
+        firstNeedless("a before b by 1;a on 5;b on 6;", 1);
+        firstNeedless("a before b by 2;a on 5;b since 7;", 0);
+        firstNeedless("a before b by 2;a by 5;b on 7;", 0);
+        firstNeedless("a before b by 2 to 4;a on 5;b since 7;b by 9;", 1);
+        firstNeedless("a before b by 2 to 4;a on 5;b since 7;b by 10;", 0);
+        firstNeedless("a before b by 2 to 4;a on 5;b since 6;b by 9;", 0);
+        firstNeedless("a while b;a from 5 to 8;b since 5;", 0);
+        firstNeedless("a while b;b on 5;a since 5;", 0);
+        firstNeedless("a while b;b on 5;a by 5;", 0);
+        firstNeedless("a while b;b on 5;a by 5;a since 5;", 1);
+    }
+
+    private static void firstNeedless(String text, int want) {
+        Probe p = new Probe();
+        Probe.due("fault of '" + text + "'", p.tell(0, text) < 0, false);
+        Probe.due("needless(0, 0) of '" + text + "'", p.x.needless(0, 0), want);
     }
 
     private static void needless(Probe p, int t, int... want) {
