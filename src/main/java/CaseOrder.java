@@ -625,16 +625,12 @@ public final class CaseOrder {
             if (k >= MOST_SAYINGS) {
                 return refuse(TOO_MANY);
             }
-            int happening = nameHere();
+            int happening = names.findOrDraft(tape, tokens.starts[here], tokens.lengths[here]);
             if (happening == NONE) {
                 return refuse(TOO_MANY);
             }
             into.row[k].begin(tokens.starts[here], happening);
             return pass();
-        }
-
-        private int nameHere() {
-            return names.findOrDraft(tape, tokens.starts[here], tokens.lengths[here]);
         }
 
         private boolean readRest(Saying said) {
@@ -649,7 +645,7 @@ public final class CaseOrder {
                 case LASTS:
                     return readFirst(said, 0) && readSecondIfAny(said) && readStop();
                 case BEFORE:
-                    return readOther(said) && readGapIfAny(said) && readStop();
+                    return readOther(said) && readGapIfAny(said) && readSecondIfAny(said) && readStop();
                 case WHILE:
                     return readOther(said) && readStop();
                 default:
@@ -661,7 +657,7 @@ public final class CaseOrder {
             if (!is(Token.NAME)) {
                 return refuse(WRONG_TOKEN);
             }
-            said.other = nameHere();
+            said.other = names.findOrDraft(tape, tokens.starts[here], tokens.lengths[here]);
             if (said.other == said.own) {
                 return refuse(SAME_NAME);
             }
@@ -673,7 +669,7 @@ public final class CaseOrder {
                 return true;
             }
             pass();
-            return readFirst(said, 1) && readSecondIfAny(said);
+            return readFirst(said, 1);
         }
 
         private boolean readFirst(Saying said, int least) {
@@ -681,8 +677,9 @@ public final class CaseOrder {
             return said.first != NONE;
         }
 
+        /** Without a first NUMBER there is none; a 'to' is found wrong where the SAYING should stop. */
         private boolean readSecondIfAny(Saying said) {
-            return !is(Token.TO) || readSecond(said);
+            return said.first == NONE || !is(Token.TO) || readSecond(said);
         }
 
         private boolean readSecond(Saying said) {
