@@ -18,9 +18,11 @@ public final class DayEdgesTest {
         quarrelAtTheEdges();
         quarrelOfThirtyNine();
         quarrelOfSeventyTwo();
+        theFullestOfAll();
         quarrelGoesByTellers();
         leaveOfLikeOnes();
         needlessAtTheEdges();
+        needlessButForOnePart();
         needlessOfTheOthers();
         lineOfLikeOnes();
         lineOfTwenty();
@@ -260,6 +262,32 @@ public final class DayEdgesTest {
         p.quarrel(11, 511);
     }
 
+    /** 72 SAYINGS of 20 HAPPENINGS, each of which asks for the most; the very last one decides. */
+    private static void theFullestOfAll() {
+        Probe p = new Probe();
+        for (int t = 0; t < 6; t++) {
+            StringBuilder text = new StringBuilder();
+            for (int k = 0; k < 12; k++) {
+                int h = (12 * t + k) % 20;
+                text.append(TWENTY.charAt(h)).append(" from ").append(h).append(" to ").append(h + 100).append(';');
+            }
+            p.taken(t, text.toString(), 12);
+        }
+        Probe.due("count(0)", p.x.count(0), 20);
+        Probe.due("count(1)", p.x.count(1), 72);
+        Probe.due("agree()", p.x.agree(), 1);
+        for (int h = 0; h < 20; h++) {
+            p.bounds(h, h, h, h + 100, h + 100);
+        }
+        Probe.due("needless(5, 11)", p.x.needless(5, 11), 1);
+        p.x.hear(32);
+        Probe.due("needless(5, 11) alone", p.x.needless(5, 11), 0);
+        p.x.hear(63);
+        p.taken(5, "a from 0 to 100;".repeat(11) + "l from 11 to 110;", 12);
+        p.quarrel(403, 511);
+        Probe.due("leave()", p.x.leave(), 32);
+    }
+
     /** The later ones stay: each is gone through while those behind it are still there. */
     private static void quarrelGoesByTellers() {
         Probe p = told("a on 5;", "a on 6;", "a on 7;");
@@ -310,7 +338,7 @@ public final class DayEdgesTest {
         for (int k = 0; k < want.length; k++) {
             Probe.due("needless(0, " + k + ") of " + text, p.x.needless(0, k), want[k]);
         }
-        Probe.due("needless of none", p.x.needless(0, want.length), CaseOrder.NONE);
+        Probe.due("needless of none", p.x.needless(0, p.x.sayings(0)), CaseOrder.NONE);
     }
 
     private static void needlessAtTheEdges() {
@@ -339,6 +367,27 @@ public final class DayEdgesTest {
         needless("a before b by 3;a before b by 3 to 4;a before b by 2 to 3;", 1, 1, 1);
         needless("a before b by 3;a before b by 2 to 4;", 0, 1);
         needless("a on 5;a on 6;", -1, -1);
+    }
+
+    /** All that a SAYING asks for but one follows from the others, then all of it. */
+    private static void needlessButForOnePart() {
+        String first = "b on 4;b before a by 1;";
+        String last = "c on 9;a before c by 1;";
+        needless("a from 5 to 8;a since 5;a lasts 3;" + last, 1);
+        needless("a from 5 to 8;a since 5;" + last, 0);
+        needless("a from 5 to 8;a by 8;" + first, 0);
+        needless("a from 5 to 8;a lasts 3 to 4;" + first, 0);
+        needless("a from 5 to 8;a lasts 2 to 3;" + first, 0);
+        needless("a from 5 to 8;" + first + last, 1);
+        needless("a on 5;a lasts 0;" + first, 1);
+        needless("a on 5;a lasts 0 to 1;" + first, 0);
+        needless("a on 8;a lasts 0 to 1;" + last, 0);
+        needless("a lasts 3;a lasts 3 to 4;", 0, 1);
+        needless("a lasts 3;a lasts 2 to 3;", 0, 1);
+        needless("a lasts 3;a lasts 3 to 4;a lasts 2 to 3;", 1, 1, 1);
+        needless("a while b;b on 5;a since 5;", 0);
+        needless("a while b;b on 5;a by 5;", 0);
+        needless("a while b;b on 5;a by 5;a since 5;", 1);
     }
 
     private static void needlessOfTheOthers() {

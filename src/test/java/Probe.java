@@ -81,6 +81,11 @@ final class Probe {
         due("the tape behind '" + text + "'", x.count(3), 0);
     }
 
+    /** On an object of its own: long texts take many calls, and an object has 512. */
+    static void refusedAnew(String text, int kind, int place) {
+        new Probe().refused(text, kind, place);
+    }
+
     void happening(String text, int number) {
         feed(x, text);
         due("happening() of '" + text + "'", x.happening(), number);

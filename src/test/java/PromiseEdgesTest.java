@@ -340,6 +340,14 @@ public final class PromiseEdgesTest {
         for (int k : FAR) {
             refused("octet(" + k + ")", x -> x.octet(k), Probe.ELEMENT);
         }
+        Probe p = new Probe();
+        p.taken(0, "a on 5;", 1);
+        Probe.due("OUT is empty until name()", p.x.count(4), 0);
+        Probe.due("octet(0)", Probe.of(() -> p.x.octet(0)), Probe.ELEMENT);
+        Probe.due("name(1)", p.x.name(1), CaseOrder.NONE);
+        Probe.due("octet(0)", Probe.of(() -> p.x.octet(0)), Probe.ELEMENT);
+        Probe.due("name(0)", p.x.name(0), 1);
+        Probe.due("octet(0)", p.x.octet(0), 'a');
         refused("the last octet", x -> x.octet(2) == 's' || x.octet(2) == 'n' ? 1 : 0, 1);
     }
 

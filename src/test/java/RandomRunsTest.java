@@ -50,7 +50,9 @@ public final class RandomRunsTest {
 
     private void due(String call, int got, int want) {
         calls++;
-        Probe.due(run + call, got, want);
+        if (calls <= CALLS) {
+            Probe.due(run + call, got, want);
+        }
     }
 
     private int teller() {

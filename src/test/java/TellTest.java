@@ -189,35 +189,35 @@ public final class TellTest {
     private static void longTexts() {
         Probe p = new Probe();
         p.taken(0, "a on 5;" + " ".repeat(393), 1);
-        p.refused("a on 5;" + " ".repeat(394), 1, 400);
-        p.refused("a on 5;" + " ".repeat(433), 1, 400);
-        p.refused(" ".repeat(401), 1, 400);
+        Probe.refusedAnew("a on 5;" + " ".repeat(394), 1, 400);
+        Probe.refusedAnew("a on 5;" + " ".repeat(433), 1, 400);
+        Probe.refusedAnew(" ".repeat(401), 1, 400);
         p.taken(0, " ".repeat(393) + "a on 5;", 1);
         p.saying(0, 0, 0, 0, -1, 5, -1, 393);
-        p.refused(" ".repeat(394) + "a on 5;", 1, 400);
-        p.refused(" ".repeat(395) + "a on 5", 1, 400);
-        p.refused(" ".repeat(394) + "a on 5", 1, 400);
-        p.refused(" ".repeat(394) + "a on ", 1, 399);
+        Probe.refusedAnew(" ".repeat(394) + "a on 5;", 1, 400);
+        Probe.refusedAnew(" ".repeat(395) + "a on 5", 1, 400);
+        Probe.refusedAnew(" ".repeat(394) + "a on 5", 1, 400);
+        Probe.refusedAnew(" ".repeat(394) + "a on ", 1, 399);
         // Read whole: nine letters, five digits, a number below the one ahead.
-        p.refused(" ".repeat(399) + "abcdefgh on 5;", 1, 400);
-        p.refused(" ".repeat(399) + "abcdefghi on 5;", 1, 399);
-        p.refused(" ".repeat(394) + "a on 1234;", 1, 400);
-        p.refused(" ".repeat(394) + "a on 12345;", 1, 399);
-        p.refused(" ".repeat(389) + "a from 20 to 13;", 1, 400);
-        p.refused(" ".repeat(387) + "a from 2 to 1;" + " ".repeat(20), 2, 399);
-        p.refused(" ".repeat(386) + "a from 20 to 13;", 2, 399);
-        p.refused(" ".repeat(386) + "a from 20 to 130;", 1, 400);
-        p.refused(" ".repeat(390) + "a before aa;", 1, 400);
-        p.refused(" ".repeat(390) + "a before a;", 3, 399);
-        p.refused(" ".repeat(391) + "a before a;", 1, 400);
-        p.refused(" ".repeat(388) + "aa before aa;", 3, 398);
-        p.refused("a on 5;".repeat(12) + " ".repeat(316) + "a on 5;", 1, 400);
-        p.refused("a on 5;".repeat(12) + " ".repeat(315) + "a on 5;", 4, 399);
-        p.refused(" ".repeat(400) + "$", 1, 400);
-        p.refused(" ".repeat(399) + "$ ", 1, 399);
-        p.refused("$" + " ".repeat(439), 1, 0);
-        p.refused("a".repeat(440), 1, 0);
-        p.refused(";".repeat(440), 1, 0);
+        Probe.refusedAnew(" ".repeat(399) + "abcdefgh on 5;", 1, 400);
+        Probe.refusedAnew(" ".repeat(399) + "abcdefghi on 5;", 1, 399);
+        Probe.refusedAnew(" ".repeat(394) + "a on 1234;", 1, 400);
+        Probe.refusedAnew(" ".repeat(394) + "a on 12345;", 1, 399);
+        Probe.refusedAnew(" ".repeat(389) + "a from 20 to 13;", 1, 400);
+        Probe.refusedAnew(" ".repeat(387) + "a from 2 to 1;" + " ".repeat(20), 2, 399);
+        Probe.refusedAnew(" ".repeat(386) + "a from 20 to 13;", 2, 399);
+        Probe.refusedAnew(" ".repeat(386) + "a from 20 to 130;", 1, 400);
+        Probe.refusedAnew(" ".repeat(390) + "a before aa;", 1, 400);
+        Probe.refusedAnew(" ".repeat(390) + "a before a;", 3, 399);
+        Probe.refusedAnew(" ".repeat(391) + "a before a;", 1, 400);
+        Probe.refusedAnew(" ".repeat(388) + "aa before aa;", 3, 398);
+        Probe.refusedAnew("a on 5;".repeat(12) + " ".repeat(316) + "a on 5;", 1, 400);
+        Probe.refusedAnew("a on 5;".repeat(12) + " ".repeat(315) + "a on 5;", 4, 399);
+        Probe.refusedAnew(" ".repeat(400) + "$", 1, 400);
+        Probe.refusedAnew(" ".repeat(399) + "$ ", 1, 399);
+        Probe.refusedAnew("$" + " ".repeat(439), 1, 0);
+        Probe.refusedAnew("a".repeat(440), 1, 0);
+        Probe.refusedAnew(";".repeat(440), 1, 0);
     }
 
     private static void allStays() {

@@ -22,14 +22,17 @@ public final class TextEdgesTest {
     public static void main(String[] args) {
         whatCanComeWhere();
         whatCanComeBehindASaying();
+        partsOfEachForm();
         theEndBehindBlanks();
         sayingsUpToTwelve();
         happeningsUpToTwenty();
         twentyHappeningsStay();
+        twentyLongestNames();
         numbersOfHappenings();
         refusedNamesAreNotNumbered();
         tellersUpToFive();
         bytesUpToFourHundred();
+        aTokenOfEachByte();
         numbersNotBelow();
         gapsOfOneAtLeast();
         theHappeningItself();
@@ -38,10 +41,6 @@ public final class TextEdgesTest {
         faultsAtTheLastByte();
         tokensReadWhole();
         Probe.close("TextEdgesTest");
-    }
-
-    private static void refusedAnew(String text, int kind, int place) {
-        new Probe().refused(text, kind, place);
     }
 
     /** Each beginning of each form, with each TOKEN behind it: one that can't come, or the end. */
@@ -64,17 +63,17 @@ public final class TextEdgesTest {
     private static void nextPieces(String ahead, int told, String so) {
         String text = ahead + written(so);
         if (!so.isEmpty()) {
-            refusedAnew(text, 1, text.length());
+            Probe.refusedAnew(text, 1, text.length());
         }
         for (String piece : PIECES) {
             String now = so + piece + " ";
             String longer = ahead + written(now);
             if (!mayBegin(now)) {
-                refusedAnew(longer, 1, text.length());
+                Probe.refusedAnew(longer, 1, text.length());
             } else if (piece.equals(";")) {
                 new Probe().taken(0, longer, told + 1);
             } else {
-                refusedAnew(longer, 1, longer.length());
+                Probe.refusedAnew(longer, 1, longer.length());
             }
         }
     }
@@ -105,21 +104,31 @@ public final class TextEdgesTest {
             String text = written(form);
             new Probe().taken(0, text, 1);
             for (String piece : PIECES) {
-                refusedAnew(text + piece.toLowerCase().replace("number", "5"), 1,
+                Probe.refusedAnew(text + piece.toLowerCase().replace("number", "5"), 1,
                     piece.equals("NAME") ? text.length() + 4 : text.length());
             }
+        }
+    }
+
+    private static void partsOfEachForm() {
+        int[][] parts = {{0, -1, 3, -1}, {1, -1, 3, 5}, {2, -1, 3, -1}, {3, -1, 3, -1}, {4, -1, 3, -1}, {4, -1, 3, 5},
+            {5, 1, -1, -1}, {5, 1, 5, -1}, {5, 1, 5, 7}, {6, 1, -1, -1}};
+        for (int i = 0; i < FORMS.length; i++) {
+            Probe p = new Probe();
+            p.taken(3, "\n" + written(FORMS[i]), 1);
+            p.saying(3, 0, parts[i][0], 0, parts[i][1], parts[i][2], parts[i][3], 1);
         }
     }
 
     private static void theEndBehindBlanks() {
         for (int blanks = 0; blanks < 5; blanks++) {
             String tail = " \n \n ".substring(0, blanks);
-            refusedAnew("a" + tail, 1, 1 + blanks);
-            refusedAnew("a on" + tail, 1, 4 + blanks);
-            refusedAnew("a on 5" + tail, 1, 6 + blanks);
-            refusedAnew("a before b" + tail, 1, 10 + blanks);
-            refusedAnew("a before b by 1 to 2" + tail, 1, 20 + blanks);
-            refusedAnew("a on 5;b" + tail, 1, 8 + blanks);
+            Probe.refusedAnew("a" + tail, 1, 1 + blanks);
+            Probe.refusedAnew("a on" + tail, 1, 4 + blanks);
+            Probe.refusedAnew("a on 5" + tail, 1, 6 + blanks);
+            Probe.refusedAnew("a before b" + tail, 1, 10 + blanks);
+            Probe.refusedAnew("a before b by 1 to 2" + tail, 1, 20 + blanks);
+            Probe.refusedAnew("a on 5;b" + tail, 1, 8 + blanks);
             new Probe().taken(0, "a on 5;" + tail, 1);
         }
     }
@@ -205,6 +214,26 @@ public final class TextEdgesTest {
         Probe.due("saying(5, 11, 1)", p.x.saying(5, 11, 1), 8);
     }
 
+    private static void twentyLongestNames() {
+        Probe p = new Probe();
+        for (int t = 0; t < 2; t++) {
+            StringBuilder text = new StringBuilder();
+            for (char last : TWENTY.substring(10 * t, 10 * t + 10).toCharArray()) {
+                text.append("zyxwvut").append(last).append(" on 5;");
+            }
+            p.taken(t, text.toString(), 10);
+        }
+        for (int h = 0; h < 20; h++) {
+            p.happening("zyxwvut" + TWENTY.charAt(h), h);
+            Probe.due("name(" + h + ")", p.x.name(h), 8);
+            Probe.due("octet(0)", p.x.octet(0), 'z');
+            Probe.due("octet(7)", p.x.octet(7), TWENTY.charAt(h));
+        }
+        p.happening("zyxwvutu", CaseOrder.NONE);
+        p.happening("zyxwvut", CaseOrder.NONE);
+        p.refused("zyxwvutu on 5;", 4, 0);
+    }
+
     private static void numbersOfHappenings() {
         Probe p = new Probe();
         p.taken(4, "late before soon;soon while mid;late before end;mid on 3;", 4);
@@ -282,6 +311,15 @@ public final class TextEdgesTest {
         }
     }
 
+    private static void aTokenOfEachByte() {
+        for (int bytes = 398; bytes <= 402; bytes++) {
+            Probe.refusedAnew(";".repeat(bytes), 1, 0);
+            Probe.refusedAnew("$".repeat(bytes), 1, 0);
+            Probe.refusedAnew("a on 5" + ";".repeat(bytes - 6), 1, 7);
+        }
+        Probe.refusedAnew(";".repeat(440), 1, 0);
+    }
+
     private static void numbersNotBelow() {
         String[] starts = {"a from ", "a lasts ", "a before b by "};
         int[] firsts = {1, 2, 9, 10, 99, 100, 5000, 9998, 9999};
@@ -290,9 +328,9 @@ public final class TextEdgesTest {
                 String ahead = start + first + " to ";
                 new Probe().taken(0, ahead + first + ";", 1);
                 new Probe().taken(0, ahead + 9999 + ";", 1);
-                refusedAnew(ahead + (first - 1) + ";", 2, ahead.length());
-                refusedAnew(ahead + "0;", 2, ahead.length());
-                refusedAnew(ahead + "000" + (first - 1) % 10 + ";", 2, ahead.length());
+                Probe.refusedAnew(ahead + (first - 1) + ";", 2, ahead.length());
+                Probe.refusedAnew(ahead + "0;", 2, ahead.length());
+                Probe.refusedAnew(ahead + "000" + (first - 1) % 10 + ";", 2, ahead.length());
             }
         }
         new Probe().taken(0, "a from 0 to 0;", 1);
@@ -301,11 +339,11 @@ public final class TextEdgesTest {
 
     private static void gapsOfOneAtLeast() {
         for (String zero : new String[] {"0", "00", "000", "0000"}) {
-            refusedAnew("a before b by " + zero + ";", 2, 14);
-            refusedAnew("a before b by " + zero + " to 0;", 2, 14);
-            refusedAnew("a before b by " + zero + " to 9;", 2, 14);
-            refusedAnew("a before b by " + zero, 2, 14);
-            refusedAnew("a before b by 1 to " + zero + ";", 2, 19);
+            Probe.refusedAnew("a before b by " + zero + ";", 2, 14);
+            Probe.refusedAnew("a before b by " + zero + " to 0;", 2, 14);
+            Probe.refusedAnew("a before b by " + zero + " to 9;", 2, 14);
+            Probe.refusedAnew("a before b by " + zero, 2, 14);
+            Probe.refusedAnew("a before b by 1 to " + zero + ";", 2, 19);
             for (String other : new String[] {"on ", "by ", "since ", "lasts "}) {
                 new Probe().taken(0, "a " + other + zero + ";", 1);
             }
@@ -331,13 +369,13 @@ public final class TextEdgesTest {
     }
 
     private static void theFirstAlongTheText() {
-        refusedAnew("a from 5 to 4;$", 2, 12);
-        refusedAnew("$ a from 5 to 4;", 1, 0);
-        refusedAnew("a before a;a from 5 to 4;", 3, 9);
-        refusedAnew("a from 5 to 4;a before a;", 2, 12);
-        refusedAnew("a on 5;".repeat(12) + "a before a;$", 4, 84);
-        refusedAnew("a on 5;".repeat(11) + "a before a;a on 5;", 3, 86);
-        refusedAnew("a on 5;".repeat(11) + "a on 5 a on 5;", 1, 84);
+        Probe.refusedAnew("a from 5 to 4;$", 2, 12);
+        Probe.refusedAnew("$ a from 5 to 4;", 1, 0);
+        Probe.refusedAnew("a before a;a from 5 to 4;", 3, 9);
+        Probe.refusedAnew("a from 5 to 4;a before a;", 2, 12);
+        Probe.refusedAnew("a on 5;".repeat(12) + "a before a;$", 4, 84);
+        Probe.refusedAnew("a on 5;".repeat(11) + "a before a;a on 5;", 3, 86);
+        Probe.refusedAnew("a on 5;".repeat(11) + "a on 5 a on 5;", 1, 84);
         Probe p = withHappenings(20);
         p.refused("u before u;", 4, 0);
         p.refused("a before a;u on 5;", 3, 9);
@@ -349,19 +387,19 @@ public final class TextEdgesTest {
 
     /** What can't come there, or is no TOKEN, is of kind 1 whatever else it would be. */
     private static void theLeastOfOneToken() {
-        refusedAnew("a from 50000 to 4;", 1, 7);
-        refusedAnew("a from 5 to 00004;", 1, 12);
-        refusedAnew("a from 5 to 4a;", 1, 12);
-        refusedAnew("a from 5 4;", 1, 9);
-        refusedAnew("a before b by 00000;", 1, 14);
-        refusedAnew("a before b 0;", 1, 11);
-        refusedAnew("a on a;", 1, 5);
-        refusedAnew("a a before b;", 1, 2);
-        refusedAnew("abcdefghi before abcdefghi;", 1, 0);
-        refusedAnew("a before b by a;", 1, 14);
+        Probe.refusedAnew("a from 50000 to 4;", 1, 7);
+        Probe.refusedAnew("a from 5 to 00004;", 1, 12);
+        Probe.refusedAnew("a from 5 to 4a;", 1, 12);
+        Probe.refusedAnew("a from 5 4;", 1, 9);
+        Probe.refusedAnew("a before b by 00000;", 1, 14);
+        Probe.refusedAnew("a before b 0;", 1, 11);
+        Probe.refusedAnew("a on a;", 1, 5);
+        Probe.refusedAnew("a a before b;", 1, 2);
+        Probe.refusedAnew("abcdefghi before abcdefghi;", 1, 0);
+        Probe.refusedAnew("a before b by a;", 1, 14);
         String dozen = "a on 5;".repeat(12);
         for (String wrong : new String[] {"on", "to", "5", ";", "$", "abcdefghi", "a5", "12345"}) {
-            refusedAnew(dozen + wrong, 1, 84);
+            Probe.refusedAnew(dozen + wrong, 1, 84);
         }
         Probe p = withHappenings(20);
         p.refused("abcdefghi on 5;", 1, 0);
@@ -394,35 +432,35 @@ public final class TextEdgesTest {
 
     private static void tokensReadWhole() {
         String blanks = " ".repeat(399);
-        refusedAnew(blanks + "a", 1, 400);
-        refusedAnew(blanks + "abcdefgh", 1, 400);
-        refusedAnew(blanks + "abcdefghi", 1, 399);
-        refusedAnew(blanks + "a".repeat(41), 1, 399);
-        refusedAnew(blanks + "a5", 1, 399);
-        refusedAnew(blanks + "on", 1, 399);
-        refusedAnew(blanks + "ons", 1, 400);
-        refusedAnew(" ".repeat(392) + "abcdefgh", 1, 400);
-        refusedAnew(" ".repeat(391) + "abcdefghi", 1, 391);
+        Probe.refusedAnew(blanks + "a", 1, 400);
+        Probe.refusedAnew(blanks + "abcdefgh", 1, 400);
+        Probe.refusedAnew(blanks + "abcdefghi", 1, 399);
+        Probe.refusedAnew(blanks + "a".repeat(41), 1, 399);
+        Probe.refusedAnew(blanks + "a5", 1, 399);
+        Probe.refusedAnew(blanks + "on", 1, 399);
+        Probe.refusedAnew(blanks + "ons", 1, 400);
+        Probe.refusedAnew(" ".repeat(392) + "abcdefgh", 1, 400);
+        Probe.refusedAnew(" ".repeat(391) + "abcdefghi", 1, 391);
         String onBlanks = " ".repeat(394) + "a on ";
-        refusedAnew(onBlanks + "1", 1, 400);
-        refusedAnew(onBlanks + "1234", 1, 400);
-        refusedAnew(onBlanks + "12345", 1, 399);
-        refusedAnew(onBlanks + "1a", 1, 399);
-        refusedAnew(onBlanks + "1;", 1, 400);
+        Probe.refusedAnew(onBlanks + "1", 1, 400);
+        Probe.refusedAnew(onBlanks + "1234", 1, 400);
+        Probe.refusedAnew(onBlanks + "12345", 1, 399);
+        Probe.refusedAnew(onBlanks + "1a", 1, 399);
+        Probe.refusedAnew(onBlanks + "1;", 1, 400);
         String wordBlanks = " ".repeat(397) + "a ";
-        refusedAnew(wordBlanks + "on", 1, 400);
-        refusedAnew(wordBlanks + "since 5;", 1, 400);
-        refusedAnew(wordBlanks + "o", 1, 399);
-        refusedAnew(wordBlanks + "onto", 1, 399);
+        Probe.refusedAnew(wordBlanks + "on", 1, 400);
+        Probe.refusedAnew(wordBlanks + "since 5;", 1, 400);
+        Probe.refusedAnew(wordBlanks + "o", 1, 399);
+        Probe.refusedAnew(wordBlanks + "onto", 1, 399);
         String fromBlanks = " ".repeat(386) + "a from 20 to ";
-        refusedAnew(fromBlanks + "1", 2, 399);
-        refusedAnew(fromBlanks + "19", 2, 399);
-        refusedAnew(fromBlanks + "20", 1, 400);
-        refusedAnew(fromBlanks + "200", 1, 400);
+        Probe.refusedAnew(fromBlanks + "1", 2, 399);
+        Probe.refusedAnew(fromBlanks + "19", 2, 399);
+        Probe.refusedAnew(fromBlanks + "20", 1, 400);
+        Probe.refusedAnew(fromBlanks + "200", 1, 400);
         String whileBlanks = " ".repeat(390) + "ab while ";
-        refusedAnew(whileBlanks + "a;", 1, 400);
-        refusedAnew(whileBlanks + "ab;", 3, 399);
-        refusedAnew(whileBlanks + "abc;", 1, 400);
+        Probe.refusedAnew(whileBlanks + "a;", 1, 400);
+        Probe.refusedAnew(whileBlanks + "ab;", 3, 399);
+        Probe.refusedAnew(whileBlanks + "abc;", 1, 400);
         Probe p = withHappenings(20);
         p.refused(blanks + "t on 5;", 1, 400);
         p.refused(blanks + "tt on 5;", 4, 399);

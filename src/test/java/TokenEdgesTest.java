@@ -172,7 +172,8 @@ public final class TokenEdgesTest {
     /** One letter more or less, and a word is a NAME, or two. */
     private static void wordsAlmost() {
         for (String word : WORDS) {
-            for (String name : new String[] {word + "s", "a" + word, word.substring(1), word.substring(0, word.length() - 1)}) {
+            String less = word.substring(0, word.length() - 1);
+            for (String name : new String[] {word + "s", "a" + word, word.substring(1), less}) {
                 Probe p = new Probe();
                 p.taken(0, name + " on 5;zz before " + name + ";", 2);
                 p.happening(name, 0);
